@@ -668,7 +668,7 @@ public final class OnceVolume {
 
     /** The TOKENS of a TEXT, of which one is looked at. */
     private static final class Tokens {
-        private int[] text;
+        private int[] text = new int[0];
         private int end;
         private int next;
         int at;
@@ -1342,7 +1342,6 @@ public final class OnceVolume {
         private void beginFile(int name) {
             virtuals[name] = freeVirtual();
             written[virtuals[name]] = NONE;
-            lengths[name] = 0;
             directoryChanged = true;
         }
 
@@ -1539,7 +1538,7 @@ public final class OnceVolume {
         private static void writeDirectory(State state, Disc disc) {
             disc.write(state.head, DIRECTORY, NAMES);
             for (int name = 0; name < NAMES; name++) {
-                disc.tell(state.head, name, state.has(name) ? state.virtuals[name] : NONE);
+                disc.tell(state.head, name, state.virtuals[name] == 0 ? NONE : state.virtuals[name]);
             }
         }
 

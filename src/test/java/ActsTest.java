@@ -327,5 +327,13 @@ public final class ActsTest {
         Check.due("the BAD one is BLANK", 0, x.block(7, 0));
         Check.due("no good map", 0, x.count(11));
         Check.due("written as at first", 15, x.sync());
+        OnceVolume y = Check.told("disc 60 4 0 0;file 3 7;");
+        y.sync();
+        y.undo();
+        Check.due("a BLANK one at HEAD", 0, y.block(0, 0));
+        Check.noSuch("tells nothing", () -> y.tells(0, 0));
+        Check.due("no MAP to find", -1, y.found(60));
+        Check.due("none REACHED", 0, y.block(0, 1));
+        Check.due("none DEAD", 0, y.count(13));
     }
 }

@@ -27,7 +27,6 @@ final class Check {
         due(call, want ? 1 : 0, got ? 1 : 0);
     }
 
-    /** The answers to calls with the whats 0, 1 .. in a row. */
     static void noSuch(String call, Call c) {
         due(call, NO_SUCH, answerOf(c));
     }

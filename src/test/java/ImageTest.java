@@ -5,6 +5,7 @@ public final class ImageTest {
         keepsAll();
         inPlaceOfAnother();
         keepsBlocksThatAreUndone();
+        keepsAllFortyActs();
         leavesTheTape();
         Check.end();
     }
@@ -93,6 +94,23 @@ public final class ImageTest {
         Check.due("undo", 2, x.undo());
         Check.due("HEAD by the undo", 5, x.count(4));
         Check.due("new again", 8, x.read(3, 0));
+    }
+
+    private static void keepsAllFortyActs() {
+        OnceVolume x = new OnceVolume();
+        for (int i = 0; i < 45; i++) {
+            x.set(1, 0, i);
+        }
+        x.image();
+        for (int i = 45; i < 100; i++) {
+            x.set(1, 0, i);
+        }
+        x.restore();
+        for (int i = 39; i >= 0; i--) {
+            Check.due("undo to " + i, i, x.undo());
+            Check.due("the number then", i + 4, x.read(1, 0));
+        }
+        Check.due("no more", -1, x.undo());
     }
 
     private static void leavesTheTape() {

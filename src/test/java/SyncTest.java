@@ -10,6 +10,7 @@ public final class SyncTest {
         cellsInAnotherPacket();
         filledToTheLast();
         orderByVirtuals();
+        greatest();
         cannotBegin();
         brokenOff();
         brokenOffByOut();
@@ -176,6 +177,31 @@ public final class SyncTest {
         x.sync();
         Check.due("virtual 1", 6, x.tells(8, 0));
         Check.due("virtual 3", 5, x.tells(10, 0));
+    }
+
+    /** All CELLS that there can be, and as many PADS as these can need: 110 and 10. */
+    private static void greatest() {
+        OnceVolume x = Check.told("disc 400 15 4 8;bad 0 399;");
+        for (int name = 0; name < 12; name++) {
+            for (int cell = 0; cell < 8; cell++) {
+                x.set(name, cell, 10 * name + cell);
+            }
+        }
+        Check.due("PADS", 10, x.cost(2));
+        Check.due("8 PACKETS of 19", 152, x.sync());
+        Check.due("the MAP", 6, x.block(151, 0));
+        Check.due("the PADS ahead of it", 2, x.block(141, 0));
+        Check.due("the DIRECTORY", 5, x.block(140, 0));
+        Check.due("the last ENTRY", 4, x.block(139, 0));
+        Check.due("told by the MAP", 139, x.tells(151, 12));
+        Check.due("told by the DIRECTORY", 12, x.tells(140, 11));
+        x.mount(0);
+        for (int name = 0; name < 12; name++) {
+            for (int cell = 0; cell < 8; cell++) {
+                Check.due("cell " + cell + " of " + name, 10 * name + cell, x.read(name, cell));
+            }
+        }
+        Check.due("none DEAD", 0, x.count(13));
     }
 
     private static void cannotBegin() {

@@ -132,6 +132,9 @@ public final class TextTest {
         fault(" discs 60 4 1 2;", 1, 1);
         fault("dis 60 4 1 2;", 1, 0);
         fault("Disc 60 4 1 2;", 1, 0);
+        fault("risc 60 4 1 2;", 1, 0);
+        fault("mad 1;", 1, 0);
+        fault("filf 1;", 1, 0);
         fault("disc", 1, 4);
         fault("disc 60 4 1", 1, 11);
         fault("disc 60 4 1 2", 1, 13);
