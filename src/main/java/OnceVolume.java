@@ -954,7 +954,7 @@ public final class OnceVolume {
         }
 
         int lengthOf(int block) {
-            return isBlock(block) ? lengths[block] : 0;
+            return block >= 0 && block < size ? lengths[block] : 0;
         }
 
         /** NONE, too, where it tells nothing such. */
