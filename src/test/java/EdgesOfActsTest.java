@@ -242,6 +242,14 @@ public final class EdgesOfActsTest {
         Check.due("DIRECTORY PAD PAD MAP", 2, x.cost(2));
         x.rename(0, 3);
         Check.due("back again, CHANGED all the same", 1, x.count(7));
+        x.set(3, 1, 8);
+        x.rename(3, 11);
+        Check.due("its CELLS", 2, x.file(11, 0));
+        Check.due("its first", 7, x.read(11, 0));
+        Check.due("its last", 8, x.read(11, 1));
+        Check.due("CHANGED as it was", 1, x.file(11, 3));
+        Check.due("NEW as it was", 1, x.count(8));
+        Check.noSuch("no FILE of the old NAME", () -> x.file(3, 0));
     }
 
     // NONE (STATUS 1): no such FILE, no such NAME, a FILE has it

@@ -129,6 +129,10 @@ public final class EdgesOfForecastsTest {
         x.cut(1, x.set(1, 0, 1) - 1);
         x.set(3, 0, 1);
         Check.due("ENTRY MAP, and DATA ENTRY | PAD MAP", 9, x.apart());
+        x.set(1, 0, 1);
+        Check.due("twice DATA ENTRY | PAD MAP, without the DIRECTORY", 12, x.apart());
+        x.erase(3);
+        Check.due("DATA ENTRY | DIRECTORY MAP", 6, x.apart());
         OnceVolume y = new OnceVolume();
         for (int name = 0; name < 12; name++) {
             y.set(name, 0, 1);

@@ -32,6 +32,7 @@ public final class EdgesOfLooksTest {
         alikeNotThere();
         deadWithoutAMap();
         hiddenMaps();
+        blankFromHeadOn();
         Check.end();
     }
 
@@ -106,6 +107,19 @@ public final class EdgesOfLooksTest {
         x.undo();
         x.undo();
         Check.due("an undone one doesn't", 1, x.block(6, 1));
+        OnceVolume y = Check.told("disc 60 8 0 2;file 11 5 6;file 0 7 8;");
+        y.sync();
+        int[] all = {1, 1, 1, 1, 1, 1, 1, 1, 0};
+        for (int block = 0; block < all.length; block++) {
+            Check.due("REACHED of the first and the last NAME: " + block, all[block], y.block(block, 1));
+        }
+        Check.due("none is DEAD", 0, y.count(13));
+        y.mount(0);
+        Check.due("the last CELL of NAME 0", 8, y.read(0, 1));
+        Check.due("the last CELL of NAME 11", 6, y.read(11, 1));
+        y.erase(11);
+        y.sync();
+        Check.due("DEAD: DATA, DATA, ENTRY, DIRECTORY, MAP", 5, y.count(13));
     }
 
     // NoSuchElementException: no such BLOCK, it tells nothing such
@@ -130,11 +144,11 @@ public final class EdgesOfLooksTest {
 
     // of DATA the number (i 0)
     private static void tellsOfData() {
-        OnceVolume x = Check.told("disc 60 4 0 2;file 3 0 999;");
+        OnceVolume x = Check.told("disc 60 4 0 2;file 3 999 0;");
         x.sync();
         tellsBut(x, 0, 3, 1);
-        Check.due("the least", 0, x.tells(0, 0));
-        Check.due("the greatest", 999, x.tells(1, 0));
+        Check.due("the greatest", 999, x.tells(0, 0));
+        Check.due("the least", 0, x.tells(1, 0));
     }
 
     // an ENTRY: no such CELL
@@ -495,5 +509,27 @@ public final class EdgesOfLooksTest {
         x.sync();
         Check.due("gone on from the first", 2, x.count(14));
         Check.due("along", 2, x.count(12));
+    }
+
+    /** BLOCKS that UNDONE ACTS wrote are BLANK, those right at a new HEAD, too. */
+    private static void blankFromHeadOn() {
+        OnceVolume x = Check.told("disc 60 4 0 3;file 1 5;");
+        x.sync();
+        x.undo();
+        x.tear(3);
+        Check.due("where the MAP was", 0, x.block(3, 0));
+        Check.due("no GOOD MAP", 0, x.count(11));
+        Check.due("not HIDDEN", 0, x.count(14));
+        Check.due("not found", -1, x.found(60));
+        Check.due("REACHED by none", 0, x.block(0, 1));
+        Check.due("mount(0)", 0, x.mount(0));
+        Check.due("DEAD: DATA ENTRY DIRECTORY", 3, x.count(13));
+        Check.noSuch("tells(3, 13)", () -> x.tells(3, 13));
+        OnceVolume y = Check.told("disc 60 4 0 3;bad 3;file 1 5;");
+        y.sync();
+        y.undo();
+        y.tear(3);
+        Check.due("where a BAD one was", 0, y.block(3, 0));
+        Check.due("none is BAD", 0, y.count(16));
     }
 }

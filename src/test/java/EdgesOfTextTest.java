@@ -27,6 +27,7 @@ public final class EdgesOfTextTest {
         discOfTheFirstBytes();
         discWithAFault();
         discTakesAllAnew();
+        discRemembersNoText();
         faultOfTheLatest();
         countOfAnotherWhat();
         countsOfNothing();
@@ -168,6 +169,9 @@ public final class EdgesOfTextTest {
         fault("filebad 1;", 1, 0);
         fault("badfile 1;", 1, 0);
         fault("discdisc 60 4 1 2;", 1, 0);
+        fault("risc 60 4 1 2;", 1, 0);
+        fault("mad 1;", 1, 0);
+        fault("filf 1;", 1, 0);
         fault("file 1 2;badx 3;", 1, 9);
         good("file1 2;file2 3;", 5, 2);
         good("disc60 4 1 2;", 0, 60);
@@ -215,6 +219,10 @@ public final class EdgesOfTextTest {
         fault("disc 60 4 1 2 file 2;", 1, 14);
         fault("3 file 1;", 1, 0);
         fault("file 1; 3;", 1, 8);
+        fault("bad 0;bad;", 1, 9);
+        fault("bad 4;bad x;", 1, 10);
+        fault("file 0;file;", 1, 11);
+        fault("file 4;file x;", 1, 12);
     }
 
     // 1 .. (the text's length where it ends too soon)
@@ -408,6 +416,26 @@ public final class EdgesOfTextTest {
         Check.noSuch("no FILE", () -> x.file(3, 0));
         x.set(0, 0, 1);
         Check.due("block 7 isn't FAULTY any more", 9, x.ends());
+    }
+
+    /** What one TEXT tells is no matter to the next one: no second 'disc', no 13th BLOCK, no CELLS of before. */
+    private static void discRemembersNoText() {
+        OnceVolume x = new OnceVolume();
+        String[] texts = {"disc 60 4 1 2;bad 0 1 2 3 4 5 6 7 8 9 10 11;file 3 7 8 9;file 0 1;",
+            "disc 61 4 1 2;bad 12 1 2 3 4 5 6 7 8 9 10 11;file 3 5;", "disc 62 4 1 2;bad 13 14;file 3 5 x", "file 3 5;"};
+        int[] faults = {0, 0, 1, 0};
+        int[] sizes = {60, 61, 61, 200};
+        int[] files = {2, 1, 1, 1};
+        int[] cells = {3, 1, 1, 1};
+        for (int i = 0; i < texts.length; i++) {
+            Check.feed(x, texts[i]);
+            Check.due("disc of " + texts[i], faults[i], x.disc(texts[i].length()));
+            Check.due("SIZE of " + texts[i], sizes[i], x.count(0));
+            Check.due("FILES of " + texts[i], files[i], x.count(5));
+            Check.due("CELLS of " + texts[i], cells[i], x.file(3, 0));
+        }
+        Check.due("block 0 isn't FAULTY any more", 9, x.ends());
+        Check.due("all may be FAULTY", 200, x.guess(9, 0) + x.guess(18, 0));
     }
 
     // The place of the latest disc()'s FAULT; NONE without

@@ -3,6 +3,7 @@ public final class EdgesOfWritingTest {
     public static void main(String[] args) {
         packetsFull();
         packetsLeastAndGreatest();
+        contentsAtTheirMost();
         noLinksAndFour();
         sparedByEachBlock();
         sparedAgainAndAgain();
@@ -78,6 +79,28 @@ public final class EdgesOfWritingTest {
         Check.due("the DIRECTORY is the 16th", 5, w.block(16, 0));
         Check.due("PADS ahead of the MAP", 2, w.block(32, 0));
         Check.due("the MAP", 6, w.block(33, 0));
+    }
+
+    /** All CELLS that there can be: 96, with 12 ENTRIES, the DIRECTORY and the MAP 110 CONTENTS. */
+    private static void contentsAtTheirMost() {
+        int[] packets = {2, 10, 11, 15, 16};
+        int[] blocks = {110, 110, 110, 120, 112};
+        for (int i = 0; i < packets.length; i++) {
+            OnceVolume x = Check.told("disc 400 " + packets[i] + " 0 0;");
+            for (int name = 0; name < 12; name++) {
+                for (int cell = 0; cell < 8; cell++) {
+                    x.set(name, cell, 100 * cell + name);
+                }
+            }
+            Check.due("by " + packets[i], blocks[i], x.sync());
+            Check.due("the last ENTRY by " + packets[i], 107, x.file(11, 2));
+            Check.due("the DIRECTORY by " + packets[i], 5, x.block(108, 0));
+            Check.due("PADS by " + packets[i], blocks[i] > 110 ? 2 : 5, x.block(blocks[i] - 2, 0));
+            Check.due("mounted by " + packets[i], 12, x.mount(0));
+            for (int name = 0; name < 12; name++) {
+                Check.due("the last CELL of " + name + " by " + packets[i], 700 + name, x.read(name, 7));
+            }
+        }
     }
 
     // RUN LINKS (0 to 4), then its BLOCKS
